@@ -557,14 +557,10 @@ public final class CableElection {
         if ((set >>> wiring.nodes) != 0) {
             return ABSENT;
         }
-        int first = NONE;
+        int first = leastIn(set);
         for (int node = 0; node < wiring.nodes; node++) {
-            if (holds(set, node)) {
-                if (first == NONE) {
-                    first = node;
-                } else if (!buses.areOne(first, node)) {
-                    return ABSENT;
-                }
+            if (holds(set, node) && !buses.areOne(first, node)) {
+                return ABSENT;
             }
         }
         return buses.hasLoop(first) ? LOOPED : FINE;
@@ -610,6 +606,16 @@ public final class CableElection {
 
     private static boolean holds(int set, int node) {
         return ((set >>> node) & 1) == 1;
+    }
+
+    /** The least node of a set that is not empty. */
+    private static int leastIn(int set) {
+        for (int node = 0; node < MOST_NODES; node++) {
+            if (holds(set, node)) {
+                return node;
+            }
+        }
+        return 0;
     }
 
     private static int without(int set, int node) {
@@ -869,7 +875,6 @@ public final class CableElection {
                 reading.refuse(FAULT_VALUE);
                 return;
             }
-            into.coins[node] = 0;
             into.coinCount[node] = reading.stop - reading.start;
             for (int i = 0; i < into.coinCount[node]; i++) {
                 into.coins[node] |= (reading.tape.byteAt(reading.start + i) - '0') << i;
@@ -1150,7 +1155,7 @@ public final class CableElection {
             nodeCount[least] = walk.reached;
             cableCount[least] = ends / 2;
             total++;
-            if (hasLoop(least)) {
+            if (ends / 2 >= walk.reached) {
                 looped++;
             }
         }
@@ -1160,7 +1165,7 @@ public final class CableElection {
         }
 
         int leastOf(int node) {
-            return Math.max(busOf[node], 0);
+            return busOf[node] < 0 ? 0 : busOf[node];
         }
 
         int nodesIn(int node) {
@@ -1388,7 +1393,7 @@ public final class CableElection {
 
         /** The set is one of nodes of one bus without a loop, and not empty. */
         void ask(Net net, Election election, Naming naming, Buses buses, int set) {
-            int asker = leastIn(net, set);
+            int asker = leastIn(set);
             int members = buses.nodesIn(asker);
             winner = NONE;
             // By ids, so that each node's children have passed on theirs before it is looked at.
@@ -1400,15 +1405,6 @@ public final class CableElection {
                     grantedAt = 2 * firstAt[node];
                 }
             }
-        }
-
-        private static int leastIn(Net net, int set) {
-            for (int node = 0; node < net.nodes; node++) {
-                if (holds(set, node)) {
-                    return node;
-                }
-            }
-            return 0;
         }
 
         private void hear(Net net, Election election, int node, int set) {
@@ -1529,8 +1525,10 @@ public final class CableElection {
                 }
             }
             // The root stays without a parent, and counts as such for the words behind it.
-            orphans[orphanCount] = made;
-            orphanCount++;
+            if (orphanCount < MOST_PACKETS) {
+                orphans[orphanCount] = made;
+                orphanCount++;
+            }
             total++;
         }
 

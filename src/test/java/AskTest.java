@@ -34,6 +34,8 @@ public final class AskTest {
         asks(x, 0b11111, 0, 0);
         asks(x, 0b11110, 2, 4);
         asks(x, 1 << 5, 5, 0);
+        CHECK.due("grant(2) by itself", x.grant(2), 8);
+        CHECK.due("wins(4) behind it", x.wins(4), 2);
     }
 
     private static void oneOfTwoAtOneTick() {

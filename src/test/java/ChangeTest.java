@@ -202,6 +202,12 @@ public final class ChangeTest {
         CableElection x = Check.netOf(THREE);
         CHECK.due("anew() of none", x.anew(), 0);
         CHECK.due("undo() of none", x.undo(), -5);
+        x.pull(0, 0);
+        CHECK.due("root(0), alone", x.root(0), 0);
+        CHECK.due("undo()", x.undo(), 0);
+        CHECK.due("root(0) as before", x.root(0), 1);
+        CHECK.due("id(2) as before", x.id(2), 1);
+        CHECK.due("count(7) as before", x.count(7), 1);
         x.force(2, 1);
         x.pull(0, 0);
         x.plug(0, 1, 2, 1, 9);

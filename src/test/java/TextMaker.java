@@ -6,6 +6,7 @@ import java.util.Random;
 final class TextMaker {
     private final Random random;
     private final List<int[]> free = new ArrayList<>();
+    private final List<String> names = new ArrayList<>();
     private final StringBuilder text = new StringBuilder();
 
     TextMaker(Random random) {
@@ -31,7 +32,7 @@ final class TextMaker {
 
     private void addNode(int node) {
         int ports = random.nextInt(4) == 0 ? 1 : 2 + random.nextInt(3);
-        text.append("node ").append((char) ('a' + node)).append(" ports ").append(ports);
+        text.append("node ").append(newName()).append(" ports ").append(ports);
         if (random.nextInt(4) == 0) {
             text.append(" force");
         }
@@ -45,6 +46,17 @@ final class TextMaker {
         for (int port = 0; port < ports; port++) {
             free.add(new int[] {node, port});
         }
+    }
+
+    /** Short for the most part, so that the tape has room; some that only look like reserved words. */
+    private String newName() {
+        String[] odd = {"wait", "delay", "ports", "long", "buses", "nodes", "nod", "z", "zz", "abcdef"};
+        String name = "";
+        while (name.isEmpty() || names.contains(name)) {
+            name = random.nextInt(4) == 0 ? odd[random.nextInt(odd.length)] : String.valueOf((char) ('a' + random.nextInt(26)));
+        }
+        names.add(name);
+        return name;
     }
 
     /** Each node to one that stands already, where a port is free; now and then a node is left alone. */
@@ -91,7 +103,7 @@ final class TextMaker {
         }
         free.remove(one);
         free.remove(two);
-        text.append("cable ").append((char) ('a' + one[0])).append(" ").append(one[1]).append(" ").append((char) ('a' + two[0]))
+        text.append("cable ").append(names.get(one[0])).append(" ").append(one[1]).append(" ").append(names.get(two[0]))
             .append(" ").append(two[1]).append(" long ").append(1 + random.nextInt(9)).append(";");
         return true;
     }

@@ -92,6 +92,13 @@ public final class TextTest {
 
     private static void tokens() {
         CableElection x = new CableElection();
+        Check.tell(x, BUS + "node az ports 1;node za ports 2;cable az 0 za 1 long 1;");
+        CHECK.due("net() with the first letter and the last", x.net(), 4);
+        CHECK.due("port(0, 0, 2)", x.port(0, 0, 2), 1);
+        CHECK.refused(BUS + "node a{ ports 1;", 1, 25);
+        CHECK.refused(BUS + "node a` ports 1;", 1, 25);
+        CHECK.refused(BUS + "node a ports 1/", 1, 33);
+        CHECK.refused(BUS + "node a ports 1:", 1, 33);
         Check.tell(x, "bus\nwait007delay0009;node\na ports2coins0 ; node force1");
         CHECK.due("net()", x.net(), -4);
         CHECK.due("fault(0)", x.fault(0), 2);
