@@ -588,6 +588,7 @@ public final class CableElection {
         return role == ROLE_PARENT ? LETTER_P : LETTER_C;
     }
 
+    /** Eight gaps are to be 2 LONGEST and 5 at least: the 7 rounds up. */
     private static int gapFor(int longest) {
         return (2 * longest + 5 + 7) / 8;
     }
