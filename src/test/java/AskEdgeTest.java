@@ -237,7 +237,16 @@ public final class AskEdgeTest {
 
     /** Promise 28: "-3: a LOOP", for what hangs on it, too; but -2 for those that are not of one bus. */
     private static void inALoop() {
-        CableElection x = loop();
+        inALoop(loop());
+        // "or more": three cables side by side.
+        CableElection x = Check.netOf("bus wait 0 delay 0;node a ports 3;node b ports 4;node c ports 1;node d ports 1;"
+            + "cable a 0 b 0 long 1;cable a 1 b 1 long 1;cable b 2 c 0 long 1;");
+        x.plug(0, 2, 1, 3, 1);
+        refused(x, 0b011, -3);
+        refused(x, 0b100, -3);
+    }
+
+    private static void inALoop(CableElection x) {
         for (int set : new int[] {0b001, 0b010, 0b100, 0b111}) {
             refused(x, set, -3);
         }

@@ -62,6 +62,9 @@ public final class CallEdgeTest {
             x.plug(0, port, 1, port, 1);
             net(x, 1, port == 0 ? 0 : 1);
             CHECK.due("root(0) with " + (port + 1), x.root(0), port == 0 ? 1 : -1);
+            CHECK.due("settled(0) with " + (port + 1), x.settled(0), port == 0 ? 1 + 10 * 4 : -1);
+            CHECK.due("rounds(0) with " + (port + 1), x.rounds(0), port == 0 ? 10 : -1);
+            CHECK.due("called(0) with " + (port + 1), x.called(0), port == 0 ? 0 : -1);
         }
         x = Check.netOf("bus wait 0 delay 0;node a ports 2;node b ports 2;node c ports 3;node d ports 1;"
             + "cable a 0 b 0 long 1;cable b 1 c 0 long 1;cable c 2 d 0 long 1;");

@@ -83,6 +83,8 @@ public final class ChangeEdgeTest {
             CHECK.due("rootBy(" + node + ") in a loop", x.rootBy(node), -1);
         }
         CHECK.due("rootBy(3) beside a loop", x.rootBy(3), 3);
+        x.plug(3, 0, 1, 2, 1);
+        CHECK.due("rootBy(3) of a tail", x.rootBy(3), -1);
         for (int node : absent(4)) {
             CHECK.due("rootBy(" + node + ")", x.rootBy(node), -2);
         }

@@ -8,6 +8,7 @@ public final class PacketEdgeTest {
     public static void main(String[] args) {
         noneAtAll();
         twelveAtMost();
+        twelveOfFourLetters();
         oneToFourLetters();
         lettersOfWords();
         parentOnceAtMost();
@@ -26,6 +27,7 @@ public final class PacketEdgeTest {
         toldStayByOtherCalls();
         letterByLetter();
         packetByPacket();
+        nothingOfFormerPacketsStays();
         unlikeBounds();
         CHECK.close();
     }
@@ -54,6 +56,15 @@ public final class PacketEdgeTest {
         CHECK.refusedPacketsFrom(ELEVEN + "pc;", "p;", 3);
         CHECK.refusedPacketsFrom("p;".repeat(12), "p;", 3);
         CHECK.refusedPacketsFrom("p;".repeat(12), "", 4);
+    }
+
+    /** As much as packets can be: twelve, each with four letters. */
+    private static void twelveOfFourLetters() {
+        CableElection x = CHECK.acceptedPackets("nnnp;" + "ncnp;".repeat(10) + "nnnc;", 12);
+        for (int i = 0; i < 11; i++) {
+            node(x, i, i + 1, 3, i == 10 ? 3 : 1, i == 0 ? 0 : 1, 11 - i);
+        }
+        node(x, 11, -1, -1, -1, 1, 0);
     }
 
     /** V: "1 .. 4 letters". */
@@ -331,6 +342,21 @@ public final class PacketEdgeTest {
         unlike(x, 5, "np;cp;cp;cp;cp;pn;pc;pc;pc;cc;", 0);
     }
 
+    /** Promise 27: "from those told": of those told before no letter is left. */
+    private static void nothingOfFormerPacketsStays() {
+        CableElection x = Check.netOf(chainOfTen());
+        String all = "np;cp;cp;cp;cp;pn;pc;pc;pc;cc;";
+        unlike(x, 0, all, 0);
+        unlike(x, 0, all, 0);
+        unlike(x, 0, "n;", 1 + 18);
+        unlike(x, 0, all, 0);
+        unlike(x, 0, "np;cn;", 1 + 16);
+        unlike(x, 0, "", 20);
+        Check.tell(x, all + "?");
+        CHECK.due("packets()", x.packets(), -4);
+        CHECK.due("unlike(0) behind a fault", x.unlike(0), 20);
+    }
+
     /** Promise 27: "NONE: a LOOP; -2". */
     private static void unlikeBounds() {
         CableElection x = Check.netOf(NET + "node d ports 1;");
@@ -347,6 +373,8 @@ public final class PacketEdgeTest {
             CHECK.due("unlike(" + node + ") in a loop", x.unlike(node), -1);
         }
         CHECK.due("unlike(3) beside a loop", x.unlike(3), 6);
+        CableElection more = Check.netOf("bus wait 0 delay 0;node a ports 3;node b ports 3;cable a 0 b 0 long 1;cable a 1 b 1 long 1;cable a 2 b 2 long 1;");
+        CHECK.due("unlike(0) with more cables than nodes", more.unlike(0), -1);
         CHECK.due("unlike(4)", x.unlike(4), -2);
         CHECK.due("unlike(0) without a net", new CableElection().unlike(0), -2);
     }

@@ -26,6 +26,7 @@ public final class TextEdgeTest {
         firstFaultByPlace();
         placeOfTheEnd();
         busFirstAndOnce();
+        wordsLetterByLetter();
         manyAtTheirWord();
         numbersOfAnyLength();
         newObject();
@@ -35,6 +36,8 @@ public final class TextEdgeTest {
         endBounds();
         endCutsOff();
         netInPlaceOfAnother();
+        nothingOfANetStays();
+        nothingOfAFaultyTextStays();
         netOfNothing();
         faultyNetChangesNothing();
         faultOfTheLatest();
@@ -128,14 +131,6 @@ public final class TextEdgeTest {
         CHECK.due("rounds, none against 0", CHECK.accepted(pair("", " coins 0"), 4).rounds(0), 10);
         // Ten rounds of zeros, 2 L and 2 each.
         CHECK.due("settled, none against none", CHECK.accepted(pair("", ""), 4).settled(0), 1 + 10 * 4);
-        // Coins of a net told before do not stay.
-        CableElection x = CHECK.accepted(pair(" coins 1", " coins 0"), 4);
-        x.net();
-        Check.tell(x, pair("", ""));
-        x.net();
-        Check.tell(x, pair("", ""));
-        x.net();
-        CHECK.due("rounds of the latest net", x.rounds(0), 10);
     }
 
     private static String ring(int cables) {
@@ -307,6 +302,29 @@ public final class TextEdgeTest {
         CHECK.refusedFrom(BUS, "0;", 1);
     }
 
+    /** A word that is not the one due there "can't stand there", be it another by one letter alone. */
+    private static void wordsLetterByLetter() {
+        String[] text = {"", "bus", " ", "wait", " 0 ", "delay", " 0;", "node", " a ", "ports", " 1 ", "force", " ", "coins", " 1;",
+            "node", " b ", "ports", " 1;", "cable", " a 0 b 0 ", "long", " 1;"};
+        CHECK.accepted(String.join("", text), 4);
+        for (int at = 1; at < text.length; at += 2) {
+            StringBuilder ahead = new StringBuilder();
+            StringBuilder behind = new StringBuilder();
+            for (int i = 0; i < text.length; i++) {
+                (i < at ? ahead : behind).append(i == at ? "" : text[i]);
+            }
+            String word = text[at];
+            for (int i = 0; i < word.length(); i++) {
+                String other = word.substring(0, i) + (char) (word.charAt(i) + 1) + word.substring(i + 1);
+                String shorter = word.substring(0, i) + word.substring(i + 1);
+                CHECK.refusedFrom(ahead.toString(), other + behind, 1);
+                CHECK.refusedFrom(ahead.toString(), shorter + behind, 1);
+            }
+            CHECK.refusedFrom(ahead.toString(), word + "s" + behind, 1);
+            CHECK.refusedFrom(ahead.toString(), "s" + word + behind, 1);
+        }
+    }
+
     /** "3 an eleventh node, a sixteenth cable, at its word": alone, they are no other fault. */
     private static void manyAtTheirWord() {
         CHECK.refusedFrom(nodes(10, 4), "node", 3);
@@ -457,10 +475,56 @@ public final class TextEdgeTest {
         CHECK.due("root(2)", x.root(2), -2);
     }
 
+    private static void read(CableElection x, String text, int answer) {
+        Check.tell(x, text);
+        CHECK.due("net() of " + text, x.net(), answer);
+    }
+
+    /** Promise 4: "(in place of another)": of those told before nothing is left, however many there were. */
+    private static void nothingOfANetStays() {
+        for (int times = 1; times <= 3; times++) {
+            CableElection x = new CableElection();
+            for (int i = 0; i < times; i++) {
+                read(x, "bus wait 7 delay 8;node a ports 4 force coins 11111111;node b ports 4 force coins 0;cable a 0 b 0 long 9;cable a 1 b 1 long 9;", 5);
+            }
+            read(x, pair("", ""), 4);
+            check(x, 2, 1, 0, 0, 0, 4, 0, 1, 0);
+            CHECK.due("rounds(0), by no coins", x.rounds(0), 10);
+            CHECK.due("force(0, 0), not forced", x.force(0, 0), -5);
+            CHECK.due("port(0, 1, 0)", x.port(0, 1, 0), -2);
+            CHECK.due("port(0, 0, 3)", x.port(0, 0, 3), 1);
+            for (int i = 0; i < times; i++) {
+                read(x, "bus wait 7 delay 8;node a ports 4;node b ports 4;cable a 2 b 3 long 9;", 4);
+            }
+            read(x, "", 0);
+            check(x, 0, 0, 0, 0, 0, 0, 0, 0, 0);
+            read(x, "bus wait 7 delay 8;node a ports 4;node b ports 4;", 3);
+            check(x, 2, 0, 7, 8, 0, 3, 0, 2, 0);
+        }
+    }
+
+    /** Of a text with a fault nothing is told, for the texts behind it neither. */
+    private static void nothingOfAFaultyTextStays() {
+        CableElection x = new CableElection();
+        for (int times = 0; times < 3; times++) {
+            read(x, "bus wait 7 delay 8;node a ports 4 force coins 1;node b ports 4;cable a 0 b 0 long 9;cable a 1 b 1 long 9;?", -4);
+            check(x, 0, 0, 0, 0, 0, 0, 0, 0, 0);
+        }
+        read(x, pair("", ""), 4);
+        check(x, 2, 1, 0, 0, 0, 4, 0, 1, 0);
+        CHECK.due("rounds(0)", x.rounds(0), 10);
+        for (int times = 0; times < 3; times++) {
+            read(x, ring(16), -4);
+            check(x, 2, 1, 0, 0, 0, 4, 0, 1, 0);
+        }
+        read(x, ring(15), 26);
+        check(x, 10, 15, 0, 0, 0, 26, 0, 1, 1);
+    }
+
     /** Promise 4: "(0: there is none then)". */
     private static void netOfNothing() {
         for (String blank : new String[] {"", " ", "\n", " \n ".repeat(233)}) {
-            CableElection x = CHECK.accepted(TWO + "cable a 0 b 0 long 1;", 4);
+            CableElection x = CHECK.accepted("bus wait 3 delay 4;node a ports 1;node b ports 1;cable a 0 b 0 long 1;", 4);
             x.pull(0, 0);
             Check.tell(x, blank);
             CHECK.due("net()", x.net(), 0);

@@ -293,7 +293,13 @@ public final class TreeEdgeTest {
 
     /** Promises 13 to 24: "NONE: a LOOP", for what hangs on the ring, too. */
     private static void noneInALoop() {
-        CableElection x = Check.netOf(LOOP);
+        noneIn(Check.netOf(LOOP));
+        // "or more": two cables side by side within the ring.
+        noneIn(Check.netOf(LOOP.replace("node b ports 2", "node b ports 3").replace("node a ports 2", "node a ports 3")
+            + "cable a 2 b 2 long 1;"));
+    }
+
+    private static void noneIn(CableElection x) {
         for (int node = 0; node < 4; node++) {
             CHECK.due("id", x.id(node), -1);
             CHECK.due("named", x.named(node, 0), -1);
