@@ -335,6 +335,12 @@ public final class PacketEdgeTest {
         unlike(x, 0, "n;", 1 + 1);
         unlike(x, 0, "p;pc;c;", 2 + 1);
         unlike(x, 0, ELEVEN + "c;", 2 + 9 * 2 + 1);
+        x = Check.netOf(TextTest.tenNodes());
+        for (int node = 0; node < 10; node++) {
+            // nnnn by itself: four letters; against p and eleven more with 21 letters none is like another.
+            unlike(x, node, "", 4);
+            unlike(x, node, ELEVEN + "c;", 4 + 21);
+        }
         x = Check.netOf(chainOfTen());
         unlike(x, 0, "", 20);
         // By id: np, cp four times, pn, pc three times, cc; against p, pc ten times, c.

@@ -30,6 +30,7 @@ public final class TreeEdgeTest {
         packetBounds();
         noneInALoop();
         besideALoop();
+        fullPortsSideBySide();
         noSuchNode();
         CHECK.close();
     }
@@ -125,6 +126,14 @@ public final class TreeEdgeTest {
         }
         CHECK.due("named(10, 10), the node is asked first", x.named(10, 10), -2);
         CHECK.due("named(-1, -1), the node is asked first", x.named(-1, -1), -2);
+        // Ten buses of one node each have ten names 0, and no other.
+        CableElection alone = Check.netOf(TextTest.tenNodes());
+        for (int node = 0; node < 10; node++) {
+            CHECK.due("named(" + node + ", 0) of ten", alone.named(node, 0), node);
+            for (int id = 1; id <= 12; id++) {
+                CHECK.due("named(" + node + ", " + id + ") of ten", alone.named(node, id), -1);
+            }
+        }
         // Fewer nodes than before: the names of those that are gone are gone.
         x.pull(4, 1);
         CHECK.due("named(0, 4)", x.named(0, 4) >= 0 ? 1 : 0, 1);
@@ -337,6 +346,46 @@ public final class TreeEdgeTest {
         CHECK.due("centre(4)", x.centre(4), 4);
         CHECK.due("packet(4, 1)", x.packet(4, 1), 0);
         CHECK.due("packet(4, 2)", x.packet(4, 2), -1);
+    }
+
+    /**
+     * Two buses, a - c and b - d, of nodes that have all four ports: the first port of one node
+     * and the last one of the node ahead of it have nothing to do with one another.
+     */
+    private static void fullPortsSideBySide() {
+        for (int one = 1; one <= 9; one += 4) {
+            for (int other = 1; other <= 9; other += 4) {
+                CableElection x = Check.netOf("bus wait 0 delay 1;node a ports 4 coins 1;node b ports 4 coins 1;node c ports 4;node d ports 4;"
+                    + "cable a 3 c 3 long " + one + ";cable b 0 d 0 long " + other + ";");
+                CHECK.due("count(7)", x.count(7), 2);
+                CHECK.due("count(8)", x.count(8), 0);
+                CHECK.due("bridges()", x.bridges(), 2);
+                for (int node = 0; node < 4; node++) {
+                    int length = node % 2 == 0 ? one : other;
+                    int port = node % 2 == 0 ? 3 : 0;
+                    CHECK.due("root", x.root(node), node % 2);
+                    CHECK.due("settled", x.settled(node), 3 * length + 6);
+                    CHECK.due("id", x.id(node), node < 2 ? 1 : 0);
+                    CHECK.due("named 0", x.named(node, 0), node % 2 + 2);
+                    CHECK.due("named 2", x.named(node, 2), -1);
+                    CHECK.due("size", x.size(node), 2);
+                    CHECK.due("below", x.below(node), node < 2 ? 2 : 1);
+                    CHECK.due("way", x.way(node, (node + 2) % 4), length);
+                    CHECK.due("way to the other bus", x.way(node, (node + 1) % 4), -1);
+                    CHECK.due("longest", x.longest(node), length);
+                    CHECK.due("packet", x.packet(node, port), node < 2 ? 2 : 1);
+                    CHECK.due("packet", x.packet(node, 3 - port), 0);
+                    CHECK.due("cutting", x.cutting(node, port), 1);
+                    CHECK.due("wins", x.wins(1 << node), node);
+                    CHECK.due("grant", x.grant(1 << node), node < 2 ? 0 : 2 * length);
+                    CHECK.due("rootBy", x.rootBy(node), node % 2);
+                }
+                // What was asked in the other bus before is nothing to this one.
+                CHECK.due("grant(8)", x.grant(0b1000), 2 * other);
+                CHECK.due("grant(4) behind it", x.grant(0b0100), 2 * one);
+                CHECK.due("grant(8) behind that", x.grant(0b1000), 2 * other);
+            }
+        }
     }
 
     /** Promises 13 to 24: "-2", with a net of some nodes, of none, and without one. */
