@@ -10,6 +10,7 @@ public final class AskEdgeTest {
         ownAheadOfAChilds();
         onlyTheFirstIsPassedOn();
         delayForAChildsAlone();
+        delayWhateverTheNumbers();
         delayDecides();
         delayForEachPassing();
         oneThatHasWonGoesOut();
@@ -120,6 +121,26 @@ public final class AskEdgeTest {
             asks(x, 0b0010, 1, 14);
             asks(x, 0b0100, 2, 2);
             asks(x, 0b1000, 3, 2 * (2 + delay));
+        }
+    }
+
+    /** A chain r - y - u below root r, by each order of the three: a child's is one, be its number the lesser or not. */
+    private static void delayWhateverTheNumbers() {
+        for (String order : new String[] {"ryu", "ruy", "yru", "yur", "ury", "uyr"}) {
+            StringBuilder text = new StringBuilder("bus wait 20 delay 6;");
+            for (char name : order.toCharArray()) {
+                text.append("node ").append(name).append(" ports 2").append(name == 'r' ? " force;" : ";");
+            }
+            CableElection x = Check.netOf(text + "cable r 0 y 0 long 2;cable y 1 u 0 long 3;");
+            int r = order.indexOf('r');
+            int y = order.indexOf('y');
+            int u = order.indexOf('u');
+            CHECK.due("root(0)", x.root(0), r);
+            asks(x, 1 << u, u, 2 * (3 + 6 + 2));
+            asks(x, 1 << y, y, 2 * 2);
+            asks(x, 1 << u | 1 << y, y, 2 * 2);
+            CHECK.due("turn, the second", x.turn(1 << u | 1 << y, 1), u);
+            CHECK.due("fair(7)", x.fair(7), 4 + 22);
         }
     }
 

@@ -1,4 +1,5 @@
 import java.nio.charset.StandardCharsets;
+import java.nio.file.Path;
 import java.util.ArrayList;
 import java.util.List;
 
@@ -29,6 +30,11 @@ final class Check {
 
     boolean isFine() {
         return wrong == 0;
+    }
+
+    /** Where README.md and src are: .ci/run says so; by hand the tests are run from there. */
+    static Path project() {
+        return Path.of(System.getProperty("project", "."));
     }
 
     void close() {

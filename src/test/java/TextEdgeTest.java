@@ -11,16 +11,20 @@ public final class TextEdgeTest {
         nodesAsTheyStand();
         portBounds();
         coinBounds();
+        coinsOfAnyLength();
         noCoinsAreZero();
         cableBounds();
         twoUnlikeNodes();
         portsOfACable();
         portsThatHaveOne();
+        portsThatAreNoNumber();
         lengthBounds();
         blanks();
         longestTokens();
         lettersAndDigits();
         namesOfSixLetters();
+        namesOfAnyLength();
+        blanksAheadOfNames();
         reservedNames();
         namesTwice();
         firstFaultByPlace();
@@ -30,6 +34,8 @@ public final class TextEdgeTest {
         manyAtTheirWord();
         numbersOfAnyLength();
         newObject();
+        objectsApart();
+        callsUpToTheLast();
         feedBounds();
         refusedFeed();
         feedIsHighestFirst();
@@ -124,6 +130,18 @@ public final class TextEdgeTest {
         CHECK.due("root, by the eighth", CHECK.accepted(pair(" coins 00000001", ""), 4).root(0), 0);
     }
 
+    /** "B 1 .. 8 digits": no more, however many there are. */
+    private static void coinsOfAnyLength() {
+        String ahead = BUS + "node a ports 1 coins ";
+        for (int many = 1; many <= 600; many++) {
+            if (many <= 8) {
+                CHECK.accepted(ahead + "0".repeat(many) + ";", 2);
+            } else {
+                CHECK.refusedFrom(ahead, "0".repeat(many) + ";", 2);
+            }
+        }
+    }
+
     /** "(0 without)". */
     private static void noCoinsAreZero() {
         CHECK.due("root, none against 1", CHECK.accepted(pair("", " coins 1"), 4).root(0), 1);
@@ -181,6 +199,17 @@ public final class TextEdgeTest {
         CHECK.refusedFrom(three + "cable a ", "0 c 1 long 1;", 2);
     }
 
+    /** "1 a TOKEN that can't stand there", at the place of a PORT, whether port 0 has a cable or not. */
+    private static void portsThatAreNoNumber() {
+        String three = TWO + "node c ports 2;cable a 0 b 0 long 1;";
+        for (String other : new String[] {"", ";", "b 0 long 1;", "long 1;", "?", ":"}) {
+            CHECK.refusedFrom(three + "cable a ", other, 1);
+            CHECK.refusedFrom(three + "cable c ", other, 1);
+            CHECK.refusedFrom(three + "cable c 0 b ", other, 1);
+            CHECK.refusedFrom(three + "cable b 1 c ", other, 1);
+        }
+    }
+
     /** "L 1 .. 9". */
     private static void lengthBounds() {
         CHECK.refusedFrom(TWO + "cable a 0 b 1 long ", "0;", 2);
@@ -234,6 +263,27 @@ public final class TextEdgeTest {
         CHECK.refusedFrom(BUS + "node ", "abcdefg ports 1;", 2);
         CHECK.refusedFrom(BUS + "node abcdef ports 1;node g ports 1;cable ", "abcdefg 0 g 0 long 1;", 2);
         CHECK.refusedFrom(BUS + "node abcdef ports 1;node g ports 1;cable g 0 ", "abcdefg 0 long 1;", 2);
+    }
+
+    /** "at most 6 letters": no more, however many there are, be the first six a name that is told. */
+    private static void namesOfAnyLength() {
+        String told = BUS + "node aaaaaa ports 1;node b ports 1;";
+        for (int letters = 7; letters <= 600; letters++) {
+            String name = "a".repeat(letters);
+            CHECK.refusedFrom(BUS + "node ", name + " ports 1;", 2);
+            CHECK.refusedFrom(told + "cable ", name + " 0 b 0 long 1;", 2);
+            CHECK.refusedFrom(told + "cable b 0 ", name + " 0 long 1;", 2);
+        }
+    }
+
+    /** "blanks aside": what stands ahead of a name and behind it is no part of it. */
+    private static void blanksAheadOfNames() {
+        for (String blank : new String[] {" ", "\n", "\n ", " \n"}) {
+            CableElection x = CHECK.accepted(BUS + "node" + blank + "a ports 1;node b" + blank + "ports 1;cable a 0" + blank + "b 0 long 1;", 4);
+            CHECK.due("port(0, 0, 1)", x.port(0, 0, 1), 1);
+            CHECK.accepted(BUS + "node a ports 1;node b ports 1;cable" + blank + "b 0a 0 long 1;", 4);
+            CHECK.refusedFrom(BUS + "node a ports 1;node" + blank, "a ports 1;", 2);
+        }
     }
 
     /** "none of bus, node, cable, force, coins"; "any word may stand for a NAME". */
@@ -364,6 +414,58 @@ public final class TextEdgeTest {
         CHECK.due("anew()", x.anew(), 0);
         CHECK.due("bridges()", x.bridges(), 0);
         CHECK.due("size(0)", x.size(0), -2);
+    }
+
+    /** What one object is told is nothing to another, made before it or behind it. */
+    private static void objectsApart() {
+        CableElection before = new CableElection();
+        CableElection x = CHECK.accepted("bus wait 3 delay 4;node a ports 2;node b ports 2;cable a 0 b 0 long 5;", 4);
+        Check.tell(x, "p;c;");
+        x.packets();
+        x.plug(0, 1, 1, 1, 6);
+        x.feed(0, 0, 0, 0, 0);
+        for (CableElection other : new CableElection[] {before, new CableElection()}) {
+            check(other, 0, 0, 0, 0, 0, 0, 0, 0, 0);
+            CHECK.due("built(0, 0)", other.built(0, 0), -2);
+            Check.tell(other, "?");
+            CHECK.due("net()", other.net(), -4);
+            read(other, BUS + "node z ports 4 force;", 2);
+            Check.tell(other, "n;");
+            CHECK.due("packets()", other.packets(), 1);
+            CHECK.due("force(0, 0)", other.force(0, 0), 0);
+        }
+        check(x, 2, 2, 3, 4, 1, 4, 20, 1, 1);
+        CHECK.due("fault(0)", x.fault(0), 0);
+        CHECK.due("built(0, 0)", x.built(0, 0), 1);
+        CHECK.due("port(0, 1, 3)", x.port(0, 1, 3), 6);
+        CHECK.due("undo()", x.undo(), 0);
+        CHECK.due("settled(0)", x.settled(0), 5 + 10 * 12);
+    }
+
+    /** "at most 512 calls": the last one answers as the first did. */
+    private static void callsUpToTheLast() {
+        CableElection x = new CableElection();
+        int calls = 0;
+        for (int times = 0; calls <= 512 - 20; times++) {
+            byte[] text = pair(" coins 01", times % 2 == 0 ? "" : " force").getBytes(java.nio.charset.StandardCharsets.ISO_8859_1);
+            for (int at = 0; at < text.length; at += 20) {
+                CHECK.due("feed", x.feed(Check.four(text, at), Check.four(text, at + 4), Check.four(text, at + 8),
+                    Check.four(text, at + 12), Check.four(text, at + 16)), at + 20);
+                calls++;
+            }
+            CHECK.due("end", x.end(text.length), text.length);
+            CHECK.due("net()", x.net(), 4);
+            CHECK.due("settled(0)", x.settled(0), 1 + 4 + 8);
+            CHECK.due("pull(0, 0)", x.pull(0, 0), 2);
+            CHECK.due("undo()", x.undo(), 0);
+            CHECK.due("force", x.force(1, 1 - times % 2), 0);
+            CHECK.due("rounds(1)", x.rounds(1), 2);
+            calls += 7;
+        }
+        for (; calls < 511; calls++) {
+            CHECK.due("grant(2)", x.grant(2), 2);
+        }
+        CHECK.due("anew(), the last call", x.anew(), 1);
     }
 
     /** Promise 2: "NONE, and none come, if it would have more than 700." */
