@@ -13,6 +13,7 @@ public final class CallEdgeTest {
         forcedWaitsFromTheFirstTick();
         forcedInside();
         forcedOnesThatMeet();
+        forcedAllOfTen();
         othersDoNotWait();
         childAndParent();
         roundsFromTheLaterCall();
@@ -169,6 +170,34 @@ public final class CallEdgeTest {
         CHECK.due("called(0)", x.called(0), -1);
         CHECK.due("root(2)", x.root(2), 0);
         CHECK.due("settled(2)", x.settled(2), 4);
+    }
+
+    /** Ten in a row, all forced, each cable one longer than the one before: all that happens, happens at ticks of its own. */
+    private static void forcedAllOfTen() {
+        StringBuilder text = new StringBuilder("bus wait 20 delay 0;");
+        for (char name = 'a'; name <= 'j'; name++) {
+            text.append("node ").append(name).append(" ports 2 force;");
+        }
+        for (int i = 0; i < 9; i++) {
+            text.append("cable ").append((char) ('a' + i)).append(" 1 ").append((char) ('b' + i)).append(" 0 long ").append(i + 1).append(";");
+        }
+        CableElection x = Check.netOf(text.toString());
+        // f has g's call at 110 and would call at 130, but has e's at 115.
+        int[] want = {20, 41, 63, 86, 110, -1, 104, 77, 49, 20};
+        for (int node = 0; node < 10; node++) {
+            CHECK.due("called(" + node + ")", x.called(node), want[node]);
+            CHECK.due("root(" + node + ")", x.root(node), 5);
+            CHECK.due("settled(" + node + ")", x.settled(node), 115);
+            CHECK.due("rounds(" + node + ")", x.rounds(node), 0);
+        }
+        for (int node = 0; node < 10; node++) {
+            x.force(node, 0);
+        }
+        // a's side: b 1, c 3, d 6, e 10, f 15, g 21; j's side: i 9, h 17, g 24.
+        int[] then = {0, 1, 3, 6, 10, 15, 21, 17, 9, 0};
+        for (int node = 0; node < 10; node++) {
+            CHECK.due("called(" + node + "), not forced", x.called(node), then[node]);
+        }
     }
 
     /** W is for forced ones alone. */

@@ -21,6 +21,7 @@ public final class PacketEdgeTest {
         leastFaultOfOnePlace();
         firstFaultByPlace();
         latestAtTheLast();
+        manyWithoutAParent();
         builtBounds();
         builtOfTheRoot();
         faultyPacketsChangeNothing();
@@ -219,6 +220,19 @@ public final class PacketEdgeTest {
             node(x, i, 4, 0, i, 0, 1);
         }
         node(x, 4, -1, -1, -1, 4, 0);
+    }
+
+    /** V: "NODES without a PARENT so far": as many as eight at once, and the latest of them first. */
+    private static void manyWithoutAParent() {
+        CableElection x = CHECK.acceptedPackets("p;".repeat(8) + "ccpc;pccc;cccc;", 11);
+        int[] parent = {10, 10, 10, 9, 9, 8, 8, 8, 9, 10, -1};
+        int[] port = {0, 1, 2, 1, 2, 0, 1, 3, 3, 3, -1};
+        int[] depth = {1, 1, 1, 2, 2, 3, 3, 3, 2, 1, 0};
+        for (int i = 0; i < 11; i++) {
+            node(x, i, parent[i], i == 10 ? -1 : i == 8 ? 2 : 0, port[i], i < 8 ? 0 : i == 10 ? 4 : 3, depth[i]);
+        }
+        CHECK.refusedPacketsFrom("p;".repeat(11), "cccc;", 2);
+        CHECK.refusedPacketsFrom("p;".repeat(8) + "pccc;pccc;", "ccc;", 2);
     }
 
     /** Promise 26: "-2: there are none such": of i and of what. */

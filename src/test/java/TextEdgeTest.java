@@ -17,6 +17,7 @@ public final class TextEdgeTest {
         twoUnlikeNodes();
         portsOfACable();
         portsThatHaveOne();
+        portsThatHaveOneOfEachNode();
         portsThatAreNoNumber();
         lengthBounds();
         blanks();
@@ -197,6 +198,37 @@ public final class TextEdgeTest {
         CHECK.refusedFrom(three + "cable b ", "1 c 1 long 1;", 2);
         CHECK.refusedFrom(three + "cable c 0 b ", "1 long 1;", 2);
         CHECK.refusedFrom(three + "cable a ", "0 c 1 long 1;", 2);
+        // In a net with fewer nodes than a node has ports, too.
+        for (int port = 0; port < 4; port++) {
+            String pair = nodes(2, 4) + "cable a " + port + " b " + (3 - port) + " long 1;";
+            CHECK.refusedFrom(pair + "cable a ", port + " b " + port + " long 1;", 2);
+            CHECK.refusedFrom(pair + "cable a " + (3 - port) + " b ", (3 - port) + " long 1;", 2);
+            CHECK.accepted(pair + "cable a " + (3 - port) + " b " + port + " long 1;", 5);
+        }
+    }
+
+    /** "that has a CABLE": for every port of every node, at either end; the ports beside it are free. */
+    private static void portsThatHaveOneOfEachNode() {
+        for (int node = 0; node < 10; node++) {
+            char name = (char) ('a' + node);
+            char one = (char) ('a' + (node + 1) % 10);
+            char other = (char) ('a' + (node + 2) % 10);
+            for (int port = 0; port < 4; port++) {
+                String text = nodes(10, 4) + "cable " + name + " " + port + " " + one + " 3 long 1;";
+                for (int again = 0; again < 4; again++) {
+                    String from = again + " " + other + " 0 long 1;";
+                    String to = again + " long 1;";
+                    if (again == port) {
+                        CHECK.refusedFrom(text + "cable " + name + " ", from, 2);
+                        CHECK.refusedFrom(text + "cable " + other + " 0 " + name + " ", to, 2);
+                    } else {
+                        CHECK.accepted(text + "cable " + name + " " + from, 13);
+                        CHECK.accepted(text + "cable " + other + " 0 " + name + " " + to, 13);
+                    }
+                }
+                CHECK.refusedFrom(text + "cable " + one + " ", "3 " + other + " 0 long 1;", 2);
+            }
+        }
     }
 
     /** "1 a TOKEN that can't stand there", at the place of a PORT, whether port 0 has a cable or not. */

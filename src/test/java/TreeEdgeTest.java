@@ -24,6 +24,7 @@ public final class TreeEdgeTest {
         delayInsideAlone();
         waysBetweenBuses();
         longestOfOneAndOfTwo();
+        longestByAnyPorts();
         leastGap();
         centreWithAndWithoutDelay();
         centreOfSeveral();
@@ -237,6 +238,25 @@ public final class TreeEdgeTest {
             + "cable b 0 c 0 long 1;cable c 1 a 0 long 9;cable c 2 d 0 long 8;");
         CHECK.due("root(0)", x.root(0), 1);
         CHECK.due("longest(1)", x.longest(1), 17);
+    }
+
+    /** IV: "of all ways": the longest and the centre do not hang on the order of ports, nor of nodes. */
+    private static void longestByAnyPorts() {
+        for (int order = 0; order < 27; order++) {
+            int one = order % 3;
+            int other = order / 3 % 3;
+            int last = order / 9;
+            if (one == other || other == last || one == last) {
+                continue;
+            }
+            CableElection x = Check.netOf("bus wait 0 delay 2;node a ports 1;node b ports 1;node m ports 3;node c ports 1;"
+                + "cable a 0 m " + one + " long 9;cable b 0 m " + other + " long 8;cable c 0 m " + last + " long 1;");
+            for (int node = 0; node < 4; node++) {
+                CHECK.due("longest(" + node + ")", x.longest(node), 9 + 2 + 8);
+                CHECK.due("gap(" + node + ")", x.gap(node), 6);
+                CHECK.due("centre(" + node + ")", x.centre(node), 2);
+            }
+        }
     }
 
     /** IV: "GAP: the least g so that 8 g is not below 2 LONGEST and 5". */
